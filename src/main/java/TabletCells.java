@@ -442,7 +442,7 @@ public final class TabletCells {
         }
     }
 
-    /** A split leaves a table without entries on one side or the other: those behind it move up. */
+    /** A split may leave one side no entries of a table: there the tables behind it move up. */
     private void closeGaps(int t) {
         for (int k = tableCount(t) - 1; k >= 0; k--) {
             if (entriesIn(t, k) == 0) {

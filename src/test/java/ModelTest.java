@@ -4,7 +4,7 @@ import java.util.Random;
 public final class ModelTest {
     private static final int RUNS = 4000;
     private static final int CALLS = 512;
-    private static final int[] ODD = {Integer.MIN_VALUE, -2, -1, 0, 7, 8, 63, 64, 9999, 10000, 5001, Integer.MAX_VALUE};
+    private static final int[] ODD = {Integer.MIN_VALUE, -2, -1, 0, 7, 8, 63, 64, 9999, 10000, 5000, 5001, Integer.MAX_VALUE};
 
     private final Random random;
     private final TabletCells x;
@@ -14,11 +14,13 @@ public final class ModelTest {
     private final int columns;
     private final int times;
     private final int tidiness;
+    /** Some runs do little else than change, so that they come to be full. */
+    private final boolean isFilling;
     private final String run;
 
     private ModelTest(int seed) {
         random = new Random(seed);
-        int[] n = {pick(7) - 1, pick(3) * pick(60), pick(7) - 1, pick(3) * pick(10100)};
+        int[] n = {pick(9) - 1, pick(3) * pick(60), pick(9) - 1, pick(3) * pick(10100)};
         x = new TabletCells(n[0], n[1], n[2], n[3]);
         model = new Model(n[0], n[1], n[2], n[3]);
         rows = pick(3) == 0 ? 64 : 1 + pick(6);
@@ -26,6 +28,7 @@ public final class ModelTest {
         columns = 1 + pick(8);
         times = pick(2) == 0 ? 1 + pick(12) : 10000;
         tidiness = pick(4);
+        isFilling = pick(5) == 0;
         run = "run " + seed + ", ";
     }
 
@@ -41,6 +44,8 @@ public final class ModelTest {
             int kind = pick(100);
             if (kind < 55) {
                 batch(kind);
+            } else if (isFilling) {
+                batch(pick(4) == 0 ? 40 : 0);
             } else if (kind < 72) {
                 read(kind);
             } else if (kind < 72 + 4 * tidiness) {
@@ -131,7 +136,7 @@ public final class ModelTest {
 
     private void tidy() {
         int t = place();
-        int what = pick(8);
+        int what = pick(9);
         if (what < 2) {
             Check.is(run + "flush", x.flush(t), model.flush(t));
         } else if (what < 4) {
@@ -139,8 +144,8 @@ public final class ModelTest {
             Check.is(run + "compact", x.compact(t, k), model.compact(t, k));
         } else if (what == 4) {
             Check.is(run + "major", x.major(t), model.major(t));
-        } else if (what < 7) {
-            int row = pick(3) == 0 ? or(pick(64)) : row();
+        } else if (what < 8) {
+            int row = pick(2) == 0 ? or(model.tablet(t, 0) + pick(12)) : row();
             Check.is(run + "split", x.split(t, row), model.split(t, row));
         } else {
             Check.is(run + "join", x.join(t), model.join(t));

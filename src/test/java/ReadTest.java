@@ -212,6 +212,7 @@ public final class ReadTest {
         }
         Check.is("20: there are rows that set another's bits", alarms, 40);
         falseAlarm(50, 1, 2, false);
+        oneBitAlone();
     }
 
     private static boolean sets(int a, int b, int bit) {
@@ -230,6 +231,22 @@ public final class ReadTest {
         x.major(0);
         x.get(row, 0, 0, 0);
         Check.is("20: row " + row + " in a table of rows " + a + " and " + b, x.looked(), isOne ? 1 : 0);
+    }
+
+    private static void oneBitAlone() {
+        for (int row = 0; row < 64; row++) {
+            for (int other = 0; other < 64; other++) {
+                boolean first = sets(other, other, (7 * row + 3) % 64);
+                boolean second = sets(other, other, (13 * row + 29) % 64);
+                if (first != second) {
+                    TabletCells x = new TabletCells(0, 0, 0, 0);
+                    put(x, other, 0, 0, 0);
+                    x.flush(0);
+                    x.get(row, 0, 0, 0);
+                    Check.is("20: row " + row + " in a table of row " + other, x.looked(), 0);
+                }
+            }
+        }
     }
 
     private static void promise20TabletsAndTables() {
@@ -259,6 +276,10 @@ public final class ReadTest {
         x.major(1);
         x.get(6, 0, 0, 0);
         Check.is("20: no table, no block", x.looked(), 10);
+        put(x, 63, 0, 0, 0);
+        x.flush(1);
+        x.get(6, 0, 0, 0);
+        Check.is("20: nothing is left of tables that were", x.looked(), 10);
         x.expect(5, 0, true, 0);
         x.put(5, 0, 0, 0);
         x.apply();
