@@ -2,15 +2,21 @@
 final class Check {
     private static int wrong = 0;
     private static int seen = 0;
+    private static String sentence = "";
 
     private Check() {
+    }
+
+    /** The words of the document that the calls from here on are held to: they stand ahead of what is wrong. */
+    static void sentence(int promise, String words) {
+        sentence = "promise " + promise + ", \"" + words + "\": ";
     }
 
     static void is(String call, long got, long due) {
         seen++;
         if (got != due) {
             wrong++;
-            System.out.println(call + " answered " + got + ", due is " + due);
+            System.out.println(sentence + call + " answered " + got + ", due is " + due);
         }
     }
 
