@@ -452,6 +452,10 @@ public final class ApplyEdgeTest {
             Check.is("tick(" + n + ") at another", x.tick(n), 2 * on + 100);
             Check.is("tick(0)", x.tick(0), 2 * on + 100);
         }
+        TabletCells y = Edge.plain();
+        for (int call = 1; call <= 512; call++) {
+            Check.is("tick(5000), call " + call, y.tick(5000), 5000 * call);
+        }
     }
 
     private static void tooOldAtTheClock() {

@@ -21,6 +21,7 @@ public final class ReadEdgeTest {
         blocksOfTheRow();
         bothBits();
         oneBlockIfNone();
+        bitsOfRowsThatLeft();
         lookedInAll();
         Check.end();
     }
@@ -496,6 +497,31 @@ public final class ReadEdgeTest {
             Check.is("row " + row + " is not there", y.get(row, 0, 9999, 0), TabletCells.BAD);
             Check.is("row " + row + " in a table of rows " + first + " and " + second + ", " + cells + " of each", y.looked(), 1);
         }
+    }
+
+    /** A filter has the bits of the rows that are in its table now, not of those that were. */
+    private static void bitsOfRowsThatLeft() {
+        Check.sentence(20, "for the row r of each entry the bits (7 * r + 3) mod 64 and (13 * r + 29) mod 64 are set");
+        TabletCells x = Edge.plain();
+        Edge.put(x, 4, 0, 0, 0);
+        Edge.put(x, 5, 0, 0, 0);
+        x.flush(0);
+        x.get(5, 0, 0, 0);
+        Check.is("row 5 is there", x.looked(), 1);
+        Edge.erase(x, 5, 0, -1);
+        x.get(5, 0, 0, 0);
+        Check.is("row 5 is covered", x.looked(), 2);
+        x.major(0);
+        x.get(5, 0, 0, 0);
+        Check.is("row 5 left", x.looked(), 2);
+        x.get(4, 0, 0, 0);
+        Check.is("row 4 is there", x.looked(), 3);
+        Edge.put(x, 5, 0, 0, 0);
+        x.flush(0);
+        x.get(5, 0, 0, 0);
+        Check.is("row 5 in a second table", x.looked(), 4);
+        x.get(4, 0, 0, 0);
+        Check.is("row 4 in the first alone", x.looked(), 5);
     }
 
     private static void lookedInAll() {

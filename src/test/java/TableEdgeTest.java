@@ -7,6 +7,8 @@ public final class TableEdgeTest {
         compactNoSuchTablet();
         compactPlace();
         compactCoveredInThese();
+        compactCoveredInOne();
+        compactOneTabletAlone();
         compactTooOld();
         compactTooOldCovers();
         compactNoneLeft();
@@ -22,11 +24,13 @@ public final class TableEdgeTest {
         tableBlocks();
         tableBlocksOfMany();
         tableFirstRow();
+        tableRowsAscend();
         tableNone();
         tableWhat();
         logBatches();
         logUntilFlushed();
         logOfTablets();
+        logBehindEntriesThatLeft();
         logOfWhatIsNotApplied();
         Check.end();
     }
@@ -154,6 +158,48 @@ public final class TableEdgeTest {
             Check.is("what the memtable covers stays", x.table(0, 4 - k, 3), 5);
             Check.is("the latest value", x.get(5, 0, 0, 0), 4);
             Check.is("no other", x.get(5, 0, 0, 1), TabletCells.BAD);
+        }
+    }
+
+    /** Two entries of one table, the second of which covers the first, in each of three tables that become one. */
+    private static void compactCoveredInOne() {
+        Check.sentence(13, "of those of their entries that no entry in these tables covers");
+        for (int k = 2; k <= 3; k++) {
+            for (int where = 0; where < 3; where++) {
+                TabletCells x = Edge.plain();
+                for (int i = 0; i < 3; i++) {
+                    Edge.put(x, 10 + i, 0, 0, 0);
+                    if (i == where) {
+                        Edge.put(x, 10 + i, 0, 0, 1);
+                    }
+                    x.flush(0);
+                }
+                boolean isInThese = where >= 3 - k;
+                Check.is("left of " + k + ", covered in table " + where, x.compact(0, k), k);
+                Check.is("entries in all", Edge.entries(x), isInThese ? 3 : 4);
+                Check.is("the later value", x.get(10 + where, 0, 0, 0), 1);
+            }
+        }
+    }
+
+    /** Entries left the first tablet once; those that came into the others since must not go with the next that leave. */
+    private static void compactOneTabletAlone() {
+        Check.sentence(13, "Compacts the k latest tables of a tablet: how many entries are left of them.");
+        for (int isMajor = 0; isMajor <= 1; isMajor++) {
+            TabletCells x = Edge.plain();
+            Edge.splitInto(x, 3);
+            for (int turn = 0; turn < 3; turn++) {
+                for (int i = 0; i < 2; i++) {
+                    Edge.put(x, 9, 0, 0, i);
+                    x.flush(1);
+                }
+                Check.is("left of the middle one", isMajor == 1 ? x.major(1) : x.compact(1, 2), 1);
+                Edge.put(x, 7, 0, turn, 0);
+                Edge.put(x, 16, 0, turn, 0);
+                Check.is("memtable of the first", x.tablet(0, 3), turn + 1);
+                Check.is("memtable of the last", x.tablet(2, 3), turn + 1);
+                Check.is("cells", x.scan(0, 63, -1, 0, 9999), 2 * turn + 3);
+            }
         }
     }
 
@@ -451,6 +497,35 @@ public final class TableEdgeTest {
         }
     }
 
+    /** The last cells of a row, and the erasure of the next row, which is the first of that one: in both orders. */
+    private static void tableRowsAscend() {
+        Check.sentence(18, "by ascending rows; in a row erasures of the row first");
+        for (int time : Edge.TIMES) {
+            for (int isFirst = 0; isFirst <= 1; isFirst++) {
+                TabletCells x = Edge.plain();
+                Edge.putCells(x, 30, 0, 3);
+                if (isFirst == 1) {
+                    Edge.erase(x, 32, -1, -1);
+                }
+                Edge.put(x, 31, 7, time, 5);
+                if (isFirst == 0) {
+                    Edge.erase(x, 32, -1, -1);
+                }
+                String when = "time " + time + ", erasure first " + isFirst;
+                Check.is(when + ", in the memtable", x.get(31, 7, 9999, 0), Check.cell(time, 5));
+                x.flush(0);
+                x.get(31, 7, 9999, 0);
+                Check.is(when + ", row 31 is in the first block", x.looked(), 1);
+                Check.is(when + ", and is live", x.scan(31, 31, -1, 0, 9999), 1);
+                x.split(0, 31);
+                Check.is(when + ", first row of the others", x.table(1, 0, 3), 31);
+                x.split(1, 32);
+                Check.is(when + ", the next row", x.table(2, 0, 3), 32);
+                Check.is(when + ", its erasure", x.table(2, 0, 1), 1);
+            }
+        }
+    }
+
     private static void tableNone() {
         Check.sentence(18, "BAD when there is none");
         for (int tables = 0; tables <= 3; tables++) {
@@ -548,6 +623,24 @@ public final class TableEdgeTest {
         Check.is("the last row is flushed", x.log(), 2);
         x.flush(0);
         Check.is("all are flushed", x.log(), 0);
+    }
+
+    private static void logBehindEntriesThatLeft() {
+        Check.sentence(19, "How many batches are in the log.");
+        TabletCells x = new TabletCells(1, 0, 0, 0);
+        for (int turn = 0; turn < 5; turn++) {
+            Edge.putCells(x, 5, 0, 4);
+            Check.is("four batches", x.log(), 4);
+            Edge.erase(x, 5, -1, -1);
+            Check.is("all leave", x.major(0), 0);
+            Check.is("none", x.log(), 0);
+            for (int i = 0; i < 4; i++) {
+                x.put(5, 0, i, i);
+            }
+            Check.is("seven entries", x.apply(), 7);
+            Check.is("of one batch", x.log(), 1);
+            x.flush(0);
+        }
     }
 
     private static void logOfWhatIsNotApplied() {
